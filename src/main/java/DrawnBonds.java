@@ -1095,11 +1095,13 @@ public final class DrawnBonds {
 
         /** Two words of up to six letters have the same code only if they are alike: 27 to the 6 is below 2 to the 31. */
         private void takeAlike() {
+            int low = kind == WORD ? 'a' : '0';
+            int high = kind == WORD ? 'z' : '9';
             int base = kind == WORD ? 27 : 10;
             int zero = kind == WORD ? 'a' - 1 : '0';
             int most = kind == WORD ? NAME_LETTERS : NUMBER_DIGITS;
             value = 0;
-            while (end < length && kindOf(tape[end]) == kind) {
+            while (end < length && tape[end] >= low && tape[end] <= high) {
                 value = end - at < most ? value * base + (tape[end] - zero) : NONE;
                 end++;
             }
