@@ -215,6 +215,7 @@ public final class DeedsTest {
         Check.due("wheel of b", Check.loan(x, 1, 7), 2147483647 - 48271);
         Check.due("its years over", x.wheel(1, 7), 2147483647 - 48271);
         Check.due("it is so", Check.loan(x, 1, 7), 7);
+        Check.due("the least", x.wheel(1, 1), 7);
     }
 
     private static void undos() {
@@ -256,6 +257,10 @@ public final class DeedsTest {
         Check.due("year", x.count(2), 0);
         Check.due("no LOT", x.lot(0, 1, 0), -1);
         Check.due("all STAND", x.count(3), 6);
+        for (int n = 1; n <= 6; n++) {
+            Check.due("YEAR of it", x.bond(0, n, 2), 0);
+            Check.due("place of it", x.bond(0, n, 3), 0);
+        }
         Check.due("WHEEL", Check.loan(x, 0, 7), 1);
         Check.due("FUND", Check.loan(x, 0, 8), 30);
         x.undo();
@@ -310,5 +315,11 @@ public final class DeedsTest {
         x.year();
         Check.due("an IMAGE stays as it was", x.image(1, true), true);
         Check.due("YEAR", x.count(2), 1);
+        x.image(0, true);
+        x.wheel(0, 4);
+        x.year();
+        Check.due("another LOT in the same YEAR", x.replayed(0, 1, 4), 2);
+        x.image(1, true);
+        Check.due("the WHEEL ahead of a LOT is in it", x.replayed(0, 1, 0), 2);
     }
 }

@@ -64,6 +64,11 @@ public final class TextTest {
         Check.due("its holders", x.count(1), 0);
         Check.due("no lines", x.text(0), 0);
         Check.due("no loans then", x.count(0), 0);
+        // Bytes behind the first n are not looked at, not even to end a TOKEN.
+        Check.feed(x, "holder abcdef cash 5;");
+        Check.due("cut in a word", x.text(10), -2 - (8 * 10 + 1));
+        Check.feed(x, "holder a cash 5;holder");
+        Check.due("cut ahead of a word", x.text(16), 1);
     }
 
     private static void textBegins() {
@@ -136,6 +141,8 @@ public final class TextTest {
         bad(";", 0, 1);
         bad("7", 0, 1);
         bad("even", 0, 1);
+        bad("noan a bonds 6", 0, 1);
+        badAt("loan a bonds 6 par 1 coupon 1 years 1 aven;", "aven", 1);
         bad("  Loan", 2, 1);
         bad("loan", 4, 1);
         bad("loan  \n", 7, 1);
