@@ -39,10 +39,7 @@ public final class DrawnBonds {
 
     private static final long HUGE_LIMIT = 1L << 62;
 
-    private final int[] tape = new int[TAPE_BYTES];
-    private int tapeLength = 0;
     private Terms terms = new Terms();
-    private Terms draft = new Terms();
     private final State now = new State();
     private final State[] done = new State[MAX_UNDO];
     private int doneCount = 0;
@@ -51,8 +48,8 @@ public final class DrawnBonds {
     private long under = 1;
 
     // These hold what one call works out; they are made once, for room is counted over all calls.
-    private final Reader reader = new Reader(tape, draft);
-    private final Row years = new Row(terms, now);
+    private final Reader reader = new Reader();
+    private final Row years = new Row();
     private final Drum drum = new Drum();
     private final Discount discount = new Discount();
     private final Luck luck = new Luck();
@@ -63,38 +60,26 @@ public final class DrawnBonds {
     // ---- the text
 
     public int feed(int a, int b, int c, int d, int e) {
-        if (tapeLength + 20 > TAPE_BYTES) {
+        if (reader.fed + 20 > TAPE_BYTES) {
             return NONE;
         }
-        feedBytes(a);
-        feedBytes(b);
-        feedBytes(c);
-        feedBytes(d);
-        feedBytes(e);
-        return tapeLength;
-    }
-
-    private void feedBytes(int four) {
-        for (int shift = 24; shift >= 0; shift -= 8) {
-            if (tapeLength < TAPE_BYTES) {
-                tape[tapeLength] = (four >>> shift) & 255;
-                tapeLength++;
-            }
-        }
+        reader.feedFour(a);
+        reader.feedFour(b);
+        reader.feedFour(c);
+        reader.feedFour(d);
+        reader.feedFour(e);
+        return reader.fed;
     }
 
     public int text(int n) {
-        if (n < 0 || n > tapeLength) {
+        if (n < 0 || n > reader.fed) {
             return NONE;
         }
-        tapeLength = 0;
-        int lines = reader.read(n, draft);
+        int lines = reader.read(n);
         if (lines < 0) {
             return lines;
         }
-        Terms old = terms;
-        terms = draft;
-        draft = old;
+        terms = reader.exchange(terms);
         now.begin(terms);
         doneCount = 0;
         for (int k = 0; k < IMAGES; k++) {
@@ -118,7 +103,7 @@ public final class DrawnBonds {
             case 9:
                 return countImages();
             case 10:
-                return tapeLength;
+                return reader.fed;
             default:
                 return what >= 3 && what <= 7 ? countOfAllLoans(what - 3) : NONE;
         }
@@ -811,20 +796,12 @@ public final class DrawnBonds {
             return rank >= 1 && rank <= MAX_RANK ? prize[rankOf(loan, rank)] : 0;
         }
 
-        int prizesTo(int loan, int rank) {
-            int all = 0;
-            for (int r = 1; r <= rank && r <= MAX_RANK; r++) {
-                all += prizeOf(loan, r);
-            }
-            return all;
-        }
-
         static int rankOf(int loan, int rank) {
             return loan * (MAX_RANK + 1) + rank;
         }
     }
 
-    /** Reads a TEXT token by token, so the first FAULT met is the one whose place is least. */
+    /** THE TAPE; its TEXT is read token by token, so the first FAULT met is the one whose place is least. */
     private static final class Reader {
         private static final int NO_TOKEN = 0;
         private static final int WORD = 1;
@@ -840,9 +817,11 @@ public final class DrawnBonds {
         private static final int NAME_LETTERS = 6;
         private static final int NUMBER_DIGITS = 5;
 
-        private final int[] tape;
+        private final int[] tape = new int[TAPE_BYTES];
+        int fed = 0;
         private int length = 0;
-        private Terms terms;
+        // A draft: what a TEXT with a FAULT told must not touch what stands.
+        private Terms terms = new Terms();
         private int kind = NO_TOKEN;
         private int at = 0;
         private int end = 0;
@@ -850,16 +829,27 @@ public final class DrawnBonds {
         private int value = 0;
         private int fault = 0;
 
-        Reader(int[] tape, Terms terms) {
-            this.tape = tape;
-            this.terms = terms;
+        void feedFour(int four) {
+            for (int shift = 24; shift >= 0; shift -= 8) {
+                if (fed < TAPE_BYTES) {
+                    tape[fed] = (four >>> shift) & 255;
+                    fed++;
+                }
+            }
         }
 
-        /** How many LINES there are, or -2 less the FAULT. */
-        int read(int bytes, Terms into) {
-            into.clear();
-            terms = into;
-            length = Math.min(bytes, tape.length);
+        /** What was read, for older terms, whose room the next TEXT takes. */
+        Terms exchange(Terms old) {
+            Terms fresh = terms;
+            terms = old;
+            return fresh;
+        }
+
+        /** How many LINES there are, or -2 less the FAULT; THE TAPE is empty then. */
+        int read(int bytes) {
+            terms.clear();
+            length = Math.min(bytes, fed);
+            fed = 0;
             end = 0;
             fault = 0;
             advance();
@@ -1222,11 +1212,16 @@ public final class DrawnBonds {
         }
     }
 
-    /** THE ROW of a LOAN; each of its arrays has one place a YEAR. */
+    /** THE ROW of a LOAN; each of its arrays but prize has one place a YEAR. */
     private static final class Row {
-        private Terms terms;
-        private State state;
-        private int loan = 0;
+        private int bonds = 0;
+        private int par = 0;
+        private int coupon = 0;
+        private int plan = 0;
+        private int sum = 0;
+        private int fundNow = 0;
+        private final int[] price = new int[MAX_YEARS + 1];
+        private final int[] prize = new int[MAX_RANK + 1];
         int first = 0;
         int last = 0;
         int atFirst = 0;
@@ -1237,34 +1232,33 @@ public final class DrawnBonds {
         final int[] bought = new int[MAX_YEARS + 1];
         final int[] fund = new int[MAX_YEARS + 1];
 
-        Row(Terms terms, State state) {
-            this.terms = terms;
-            this.state = state;
-        }
-
-        void foresee(Terms told, State from, int ofLoan) {
-            open(told, from, ofLoan);
+        void foresee(Terms terms, State state, int loan) {
+            open(terms, state, loan);
             run(0, 0, 0);
         }
 
-        void open(Terms told, State from, int ofLoan) {
-            terms = told;
-            state = from;
-            loan = ofLoan;
-            first = from.year + 1;
-            last = told.years[ofLoan];
-            atFirst = from.countBonds(told, ofLoan, STANDS);
+        void open(Terms terms, State state, int loan) {
+            bonds = terms.bonds[loan];
+            par = terms.par[loan];
+            coupon = terms.coupon[loan];
+            plan = terms.plan[loan];
+            sum = terms.sum[loan];
+            fundNow = state.fund[loan];
+            first = state.year + 1;
+            last = terms.years[loan];
+            atFirst = state.countBonds(terms, loan, STANDS);
+            System.arraycopy(state.price, cellOf(loan, 0), price, 0, price.length);
+            System.arraycopy(terms.prize, Terms.rankOf(loan, 0), prize, 0, prize.length);
         }
 
         /** The years as they come if the FUND is more by a sum, and one YEAR (0: none) has another price. */
         void run(int more, int otherYear, int otherPrice) {
             int left = atFirst;
-            int put = state.fund[loan] + more;
+            int put = fundNow + more;
             for (int y = first; y <= last; y++) {
-                int price = y == otherYear ? otherPrice : state.price[cellOf(loan, y)];
                 stand[y] = left;
-                interest[y] = left * terms.coupon[loan];
-                setCost(y, price);
+                interest[y] = left * coupon;
+                setCost(y, y == otherYear ? otherPrice : price[y]);
                 fund[y] = put;
                 setDue(y);
                 left -= due[y];
@@ -1272,20 +1266,20 @@ public final class DrawnBonds {
             }
         }
 
-        private void setCost(int y, int price) {
-            boolean buys = price < terms.par[loan] && y != last && terms.plan[loan] != END;
+        private void setCost(int y, int priceThen) {
+            boolean buys = priceThen < par && y != last && plan != END;
             bought[y] = buys ? 1 : 0;
-            cost[y] = buys ? price : terms.par[loan];
+            cost[y] = buys ? priceThen : par;
         }
 
         private void setDue(int y) {
             if (y == last) {
                 due[y] = stand[y];
-            } else if (terms.plan[loan] == EVEN) {
-                int retired = terms.bonds[loan] - stand[y];
-                due[y] = last > 0 ? terms.bonds[loan] * y / last - retired : 0;
-            } else if (terms.plan[loan] == SINK) {
-                fund[y] += Math.max(0, terms.sum[loan] - interest[y]);
+            } else if (plan == EVEN) {
+                int retired = bonds - stand[y];
+                due[y] = last > 0 ? bonds * y / last - retired : 0;
+            } else if (plan == SINK) {
+                fund[y] += Math.max(0, sum - interest[y]);
                 due[y] = cost[y] > 0 ? Math.min(stand[y], fund[y] / cost[y]) : 0;
                 fund[y] -= due[y] * cost[y];
             } else {
@@ -1298,8 +1292,11 @@ public final class DrawnBonds {
         }
 
         int payment(int y) {
-            int prizes = bought[y] == 1 ? 0 : terms.prizesTo(loan, due[y]);
-            return interest[y] + due[y] * cost[y] + prizes;
+            int all = interest[y] + due[y] * cost[y];
+            for (int rank = 1; rank <= MAX_RANK && rank <= due[y] && bought[y] == 0; rank++) {
+                all += prize[rank];
+            }
+            return all;
         }
 
         /** By how much the FUND must be more for some DUE, of the years to one behind which some stand, to change. */

@@ -8,6 +8,7 @@ public final class FullHouseTest {
         allBonds();
         allYears();
         rankNine();
+        rankNineOfTheLast();
         costOne();
         readAgain();
         Check.end();
@@ -90,6 +91,16 @@ public final class FullHouseTest {
         for (int k = 1; k <= 12; k++) {
             Check.due("got " + k, x.bond(1, x.lot(1, 1, k), 4), k == 9 ? 510 : k == 1 ? 13 : 10);
         }
+    }
+
+    private static void rankNineOfTheLast() {
+        DrawnBonds x = Check.house(LOANS + "prize d 9 9999;prize d 1 1;prize c 9 5;prize a 1 7;price d 20 5;price c 20 4;");
+        Check.due("prizes of d", x.toPay(3), 60 * 99 + 60 * 999 + 10000);
+        Check.due("prizes of c", x.toPay(2), 20 * 60 + 180 + 5);
+        Check.due("prizes of a", x.toPay(0), 60 + 20 * 7);
+        Check.due("price of c", x.price(2, 20), 4);
+        Check.due("price of d", x.price(3, 20), 5);
+        Check.due("no other price", x.price(3, 1), 999);
     }
 
     private static void costOne() {

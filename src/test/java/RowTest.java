@@ -125,6 +125,9 @@ public final class RowTest {
         Check.fraction("a year later", five, five.worth(0, 60), 19073486328125L, 1L << 57);
         DrawnBonds dear = Check.house("loan a bonds 4 par 1 coupon 99 years 20 end;");
         Check.fraction("all together is above it", dear, dear.worth(0, 60), -2, 1);
+        // Each part of the sum is above it, too.
+        DrawnBonds parts = Check.house("loan a bonds 4 par 999 coupon 99 years 9 end;");
+        Check.fraction("all parts are above it", parts, parts.worth(0, 1), -2, 1);
         Check.fraction("by nothing", dear, dear.worth(0, 0), 1981, 1);
         // Only all together, not B, goes beyond: 7 to the 20, and 63 times that.
         DrawnBonds one = Check.house("loan a bonds 1 par 100 coupon 40 years 20 end;");
