@@ -1,3 +1,4 @@
+import java.lang.reflect.Field;
 import java.util.IdentityHashMap;
 import java.util.Map;
 import java.util.NoSuchElementException;
@@ -86,6 +87,15 @@ final class Check {
         for (int k = 0; k < n; k++) {
             house.year();
         }
+    }
+
+    /** A row inside the object, for bounds that no run of calls can reach. */
+    static int[] inside(DrawnBonds x, String part, String row) throws ReflectiveOperationException {
+        Field of = DrawnBonds.class.getDeclaredField(part);
+        of.setAccessible(true);
+        Field numbers = of.get(x).getClass().getDeclaredField(row);
+        numbers.setAccessible(true);
+        return (int[]) numbers.get(of.get(x));
     }
 
     /** All that can change, asked for without a thought of years to come; for small houses, as an object has but 512 calls. */

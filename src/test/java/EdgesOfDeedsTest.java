@@ -387,6 +387,7 @@ public final class EdgesOfDeedsTest {
             Check.due("of " + done, x.count(8), can);
             for (int k = can - 1; k >= 0; k--) {
                 Check.due("how many still can be", x.undo(), k);
+                Check.due("WHEEL", Check.loan(x, 0, 7), done - can + k == 0 ? 1 : 100 + done - can + k);
             }
             Check.due("none", x.undo(), -1);
             Check.due("WHEEL behind " + done, Check.loan(x, 0, 7), done <= 12 ? 1 : 100 + done - 12);
@@ -515,6 +516,17 @@ public final class EdgesOfDeedsTest {
         Check.due("undo", x.undo(), -1);
         Check.due("replayed", x.replayed(0, 1, 0), 2);
         Check.due("the LOT of a YEAR that is to come again", x.lot(0, 2, 0), -1);
+        DrawnBonds two = Check.house(TEXT);
+        two.image(0, false);
+        two.year();
+        two.image(1, false);
+        two.image(0, true);
+        two.wheel(0, 3);
+        two.year();
+        Check.due("3 draws another LOT than 1", two.replayed(0, 1, 1), 0);
+        two.image(1, true);
+        Check.due("the WHEEL ahead of a LOT is in it", two.replayed(0, 1, 0), 2);
+        Check.due("it was 1", two.replayed(0, 1, 1), 2);
     }
 
     private static void imageOverAnother() {

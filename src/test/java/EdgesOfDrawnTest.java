@@ -344,6 +344,14 @@ public final class EdgesOfDrawnTest {
             x.year();
         }
         Check.due("in a new object", new DrawnBonds().unlucky(-1), 0);
+        DrawnBonds six = Check.house("loan a bonds 6 par 1 coupon 0 years 6 even;holder p cash 0;holder q cash 0;holder r cash 0;holder s cash 0;holder t cash 0;holder u cash 0;"
+                + "holds p a 1 1;holds q a 2 2;holds r a 3 3;holds s a 4 4;holds t a 5 5;holds u a 6 6;");
+        Check.years(six, 6);
+        Check.due("six", six.unlucky(-1), 6);
+        for (int i = 0; i < 6; i++) {
+            Check.due("i " + i, six.unlucky(i), six.lot(0, 6 - i, 1) - 1);
+        }
+        Check.due("i 6", six.unlucky(6), -2);
     }
 
     private static void unluckyOthers() {

@@ -1,5 +1,5 @@
-import java.lang.reflect.Field;
 import java.math.BigInteger;
+import java.util.Arrays;
 
 /** "Terms", part 3, and promises 19 to 30: a test for each sentence that names a boundary case. */
 public final class EdgesOfRowTest {
@@ -312,9 +312,11 @@ public final class EdgesOfRowTest {
         Check.due("one more in 19", just.worth(0, 75), -2);
         just.priced(0, 19, 30);
         Check.due("one less in 19", just.worth(0, 75) > 0, true);
-        // Far beyond: each part alone wraps around.
+        // Here B is not, but each part of the sum is so far beyond that two of them would wrap around.
+        DrawnBonds parts = Check.house("loan a bonds 4 par 999 coupon 99 years 9 end;");
+        Check.due("each part beyond", parts.worth(0, 1), -2);
         DrawnBonds far = Check.house("loan a bonds 60 par 999 coupon 99 years 9 end;");
-        Check.due("far beyond", far.worth(0, 1), -2);
+        Check.due("both beyond", far.worth(0, 1), -2);
         DrawnBonds farther = Check.house("loan a bonds 60 par 999 coupon 99 years 20 end;");
         Check.due("B far beyond", farther.worth(0, 99), -2);
     }
@@ -623,6 +625,11 @@ public final class EdgesOfRowTest {
         Check.due("99: 198 by 99", x.ifPrice(0, 1, 99, 1), 2);
         Check.due("100: 198 by 100", x.ifPrice(0, 1, 100, 1), 3);
         Check.due("101: by 100", x.ifPrice(0, 1, 101, 1), 3);
+        Check.due("66: 198 by 66", x.ifPrice(0, 1, 66, 1), 1);
+        x.put(0, 1);
+        Check.due("100: 199 by 100", x.ifPrice(0, 1, 100, 1), 3);
+        x.put(0, 1);
+        Check.due("100: 200 by 100", x.ifPrice(0, 1, 100, 1), 2);
         Check.due("the last", x.ifPrice(0, 3, 1, 3), 0);
         Check.due("even", x.ifPrice(1, 1, 1, 1), 3);
         Check.due("end", x.ifPrice(2, 1, 1, 3), 4);
@@ -711,31 +718,16 @@ public final class EdgesOfRowTest {
         Check.about("Promise 30: (0 to 99999); -2: none does");
         DrawnBonds most = Check.house("loan b bonds 60 par 999 coupon 99 years 3 sink 1;");
         Check.due("the most that a TEXT can need", most.needs(0, 1), 59940);
-        try {
-            Check.due("99999 do", dear(0).needs(0, 1), 99999);
-            Check.due("100000 would do", dear(1).needs(0, 1), -2);
-            Check.due("the last year needs none", dear(1).needs(0, 2), 0);
-        } catch (NoSuchFieldException e) {
-            System.out.println("par is held otherwise now: -2 of needs was not looked at");
-        }
+        Check.due("99999 do", dear(0).needs(0, 1), 99999);
+        Check.due("100000 would do", dear(1).needs(0, 1), -2);
+        Check.due("the last year needs none", dear(1).needs(0, 2), 0);
     }
 
     private static DrawnBonds dear(int coupon) throws ReflectiveOperationException {
         DrawnBonds x = Check.house("loan b bonds 1 par 999 coupon " + coupon + " years 2 sink 1;");
-        ints(x, "terms", "par")[0] = 100000;
-        int[] price = ints(x, "now", "price");
-        for (int k = 0; k < price.length; k++) {
-            price[k] = 100000;
-        }
+        Check.inside(x, "terms", "par")[0] = 100000;
+        Arrays.fill(Check.inside(x, "now", "price"), 100000);
         return x;
-    }
-
-    private static int[] ints(DrawnBonds x, String of, String name) throws ReflectiveOperationException {
-        Field part = DrawnBonds.class.getDeclaredField(of);
-        part.setAccessible(true);
-        Field row = part.get(x).getClass().getDeclaredField(name);
-        row.setAccessible(true);
-        return (int[]) row.get(part.get(x));
     }
 
     private static void thoughtAlone() {

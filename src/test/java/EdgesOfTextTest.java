@@ -24,6 +24,8 @@ public final class EdgesOfTextTest {
         textNotSoMany();
         textBelowNothing();
         textBegins();
+        textOfNoLinesBegins();
+        textsOneBehindTheOther();
         textFaultStays();
         textFaultNumber();
         blanks();
@@ -49,6 +51,7 @@ public final class EdgesOfTextTest {
         faultOfOnePlace();
         faultFirstByte();
         faultTokenWithWhichNoneGoesOn();
+        faultNearlyTheWord();
         faultAtTheEnd();
         faultGivenToTwo();
         faultToldAlready();
@@ -275,6 +278,53 @@ public final class EdgesOfTextTest {
         Check.due("image 0 back", x.image(0, true), false);
         Check.due("image 1 back", x.image(1, true), false);
         Check.due("undo", x.undo(), -1);
+    }
+
+    private static void textOfNoLinesBegins() {
+        Check.about("Promise 3: a TEXT of no LINES: no LOANS, no HOLDERS, YEAR 0, no IMAGES, nothing can be taken back");
+        String fresh = Check.seen(new DrawnBonds());
+        for (String blank : new String[] {"", " \n"}) {
+            DrawnBonds x = Check.house(BOTH);
+            x.year();
+            x.image(0, false);
+            Check.due("text", Check.read(x, blank), 0);
+            Check.same("a TEXT of no LINES", Check.seen(x), fresh);
+            Check.due("image back", x.image(0, true), false);
+        }
+    }
+
+    private static void textsOneBehindTheOther() {
+        Check.about("Promise 3: each TEXT is told anew, however many were, with and without FAULTS");
+        String sink = "loan b bonds 3 par 5 coupon 0 years 2 sink 9 lapse 1;";
+        String[] texts = {BOTH + "holds h a 1 7;prize a 1 5;price a 1 7;", sink + "prize b 3 9;price b 2 4;holder h cash 3;holds h b 2 3;", BOTH,
+            sink.replace("sink 9 lapse 1", "even") + HOLDER};
+        String[] want = new String[texts.length];
+        for (int k = 0; k < texts.length; k++) {
+            DrawnBonds alone = Check.house(texts[k]);
+            want[k] = Check.seen(alone) + " toPay=" + alone.toPay(0);
+        }
+        for (int first = 0; first < texts.length; first++) {
+            DrawnBonds x = new DrawnBonds();
+            for (int k = 0; k < 3; k++) {
+                Check.read(x, texts[first]);
+                x.year();
+                Check.read(x, texts[(first + k) % texts.length] + "?");
+                x.put(0, 5);
+            }
+            int then = (first + 1) % texts.length;
+            Check.read(x, texts[then]);
+            Check.same("many TEXTS", Check.seen(x) + " toPay=" + x.toPay(0), want[then]);
+        }
+        // So many LINES of each kind that those of the TEXTS ahead must not count.
+        DrawnBonds x = new DrawnBonds();
+        String wide = "loan a bonds60par1coupon0years20end;loan c bonds1par1coupon0years5end;holder h cash 0;";
+        String[] full = {times(4, "loan @ bonds 1 par 1 coupon 0 years 1 end;"), times(6, "holder @ cash 0;"), wide + times(20, "holds h a # #;"),
+            wide + times(9, "prize a # 5;") + times(3, "prize c # 5;"), wide + times(20, "price a # 5;") + times(4, "price c # 5;")};
+        for (int round = 0; round < 3; round++) {
+            for (String text : full) {
+                Check.due("as many LINES as can be, round " + round, Check.read(x, text), text.split(";").length);
+            }
+        }
     }
 
     private static void textFaultStays() {
@@ -625,6 +675,26 @@ public final class EdgesOfTextTest {
                 faults(ahead + "wwwwwww", ahead.length(), 1);
                 faults(ahead + "?", ahead.length(), 1);
                 ahead.append(part).append(' ');
+            }
+        }
+    }
+
+    private static void faultNearlyTheWord() {
+        Check.about("Part 1: 1: a WORD that is nearly the one that must stand");
+        String loan = "loan a bonds 6 par 7 coupon 8 years 9 even lapse 3;";
+        String[] lines = {loan, loan.replace("even", "end"), loan.replace("even", "sink 5"), "holder h cash 1;", BOTH + "holds h a 1 2;", BOTH + "prize a 1 2;",
+            BOTH + "price a 1 2;"};
+        for (String line : lines) {
+            for (String key : KEYS) {
+                int at = line.lastIndexOf(key + " ") < 0 ? line.lastIndexOf(key + ";") : line.lastIndexOf(key + " ");
+                if (at < 0) {
+                    continue;
+                }
+                int end = at + key.length();
+                for (String near : new String[] {"q" + key.substring(1), key.substring(0, key.length() - 1) + "q", key + "q", "q" + key,
+                    key.substring(1), key.substring(0, key.length() - 1)}) {
+                    faults(line.substring(0, at) + near + line.substring(end), at, 1);
+                }
             }
         }
     }

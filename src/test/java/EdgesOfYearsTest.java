@@ -1,5 +1,3 @@
-import java.lang.reflect.Field;
-
 /** "Terms", part 2: a test for each sentence that names a boundary case. */
 public final class EdgesOfYearsTest {
     private static final int MOST_CASH = 1_000_000_000;
@@ -594,65 +592,50 @@ public final class EdgesOfYearsTest {
 
     // ---- CASH; no TEXT and no 512 calls come near its bound, so it is laid into the object by hand
 
-    private static boolean layCash(DrawnBonds x, int holder, int sum) throws ReflectiveOperationException {
-        try {
-            Field now = DrawnBonds.class.getDeclaredField("now");
-            now.setAccessible(true);
-            Field cash = now.get(x).getClass().getDeclaredField("cash");
-            cash.setAccessible(true);
-            ((int[]) cash.get(now.get(x)))[holder] = sum;
-            return true;
-        } catch (NoSuchFieldException e) {
-            System.out.println("CASH is held otherwise now: its bound was not looked at");
-            return false;
-        }
+    private static void layCash(DrawnBonds x, int holder, int sum) throws ReflectiveOperationException {
+        Check.inside(x, "now", "cash")[holder] = sum;
     }
 
     private static void cashFromInterest() throws ReflectiveOperationException {
         Check.about("Part 2: CASH is 1,000,000,000 at most: INTEREST");
         for (int less : new int[] {5, 4, 0}) {
             DrawnBonds x = Check.house("loan a bonds 1 par 10 coupon 5 years 2 end;holder h cash 0;holds h a 1 1;");
-            if (layCash(x, 0, MOST_CASH - less)) {
-                x.year();
-                Check.due("with " + less + " less", x.cash(0), MOST_CASH);
-                Check.due("it is paid all the same", x.paid(0, 0), 5);
-            }
+            layCash(x, 0, MOST_CASH - less);
+            x.year();
+            Check.due("with " + less + " less", x.cash(0), MOST_CASH);
+            Check.due("it is paid all the same", x.paid(0, 0), 5);
         }
         DrawnBonds x = Check.house("loan a bonds 1 par 10 coupon 5 years 2 end;holder h cash 0;holds h a 1 1;");
-        if (layCash(x, 0, MOST_CASH - 6)) {
-            x.year();
-            Check.due("just below", x.cash(0), MOST_CASH - 1);
-        }
+        layCash(x, 0, MOST_CASH - 6);
+        x.year();
+        Check.due("just below", x.cash(0), MOST_CASH - 1);
     }
 
     private static void cashFromBought() throws ReflectiveOperationException {
         Check.about("Part 2: CASH is 1,000,000,000 at most: for BOUGHT ones");
         DrawnBonds x = Check.house("loan a bonds 2 par 10 coupon 0 years 2 even;holder h cash 0;holds h a 1 2;price a 1 9;");
-        if (layCash(x, 0, MOST_CASH - 8)) {
-            x.year();
-            Check.due("cash", x.cash(0), MOST_CASH);
-        }
+        layCash(x, 0, MOST_CASH - 8);
+        x.year();
+        Check.due("cash", x.cash(0), MOST_CASH);
     }
 
     private static void cashFromClaims() throws ReflectiveOperationException {
         Check.about("Part 2: CASH is 1,000,000,000 at most (what goes beyond is lost): claims");
         DrawnBonds x = Check.house("loan a bonds 2 par 10 coupon 0 years 1 end;holder h cash 0;holds h a 1 2;");
-        if (layCash(x, 0, MOST_CASH - 3)) {
-            x.year();
-            Check.due("claim tells all", x.claim(0, 0), 20);
-            Check.due("cash", x.cash(0), MOST_CASH);
-            Check.due("PAID", x.count(5), 2);
-        }
+        layCash(x, 0, MOST_CASH - 3);
+        x.year();
+        Check.due("claim tells all", x.claim(0, 0), 20);
+        Check.due("cash", x.cash(0), MOST_CASH);
+        Check.due("PAID", x.count(5), 2);
     }
 
     private static void cashFromSales() throws ReflectiveOperationException {
         Check.about("Part 2: CASH is 1,000,000,000 at most (what goes beyond is lost): sales");
         DrawnBonds x = Check.house("loan a bonds 2 par 10 coupon 0 years 1 end;holder h cash 0;holder g cash 50;holds h a 1 2;");
-        if (layCash(x, 0, MOST_CASH - 3)) {
-            Check.due("sell", x.sell(0, 1, 1, 50), true);
-            Check.due("its own", x.cash(0), MOST_CASH);
-            Check.due("the other one's", x.cash(1), 0);
-        }
+        layCash(x, 0, MOST_CASH - 3);
+        Check.due("sell", x.sell(0, 1, 1, 50), true);
+        Check.due("its own", x.cash(0), MOST_CASH);
+        Check.due("the other one's", x.cash(1), 0);
     }
 
     private static void cashOfAll() {

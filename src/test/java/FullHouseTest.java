@@ -7,6 +7,7 @@ public final class FullHouseTest {
     public static void main(String[] args) {
         allBonds();
         allYears();
+        allLots();
         rankNine();
         rankNineOfTheLast();
         costOne();
@@ -59,11 +60,6 @@ public final class FullHouseTest {
         Check.due("the first of c", x.lastOne(2, 0), 1);
         Check.due("how many", x.lastOne(2, -1), 60);
         Check.due("and no more", x.lastOne(2, 60), -2);
-        for (int l = 0; l < 4; l++) {
-            for (int n = 1; n <= 60; n++) {
-                Check.due("lot of " + l + " " + n, x.lot(l, x.bond(l, n, 2), x.bond(l, n, 3)), n);
-            }
-        }
         Check.due("UNLUCKY", x.unlucky(-1), 6);
         boolean[] seen = new boolean[6];
         long years = Long.MAX_VALUE;
@@ -76,6 +72,16 @@ public final class FullHouseTest {
             Check.due("the greatest first", i == 0 || m * by <= years * x.below(), true);
             years = m;
             by = x.below();
+        }
+    }
+
+    private static void allLots() {
+        for (int l = 0; l < 4; l++) {
+            DrawnBonds x = Check.house(LOANS + HOLDERS + holdings());
+            Check.years(x, 20);
+            for (int n = 1; n <= 60; n++) {
+                Check.due("lot of " + l + " " + n, x.lot(l, x.bond(l, n, 2), x.bond(l, n, 3)), n);
+            }
         }
     }
 

@@ -10,33 +10,34 @@ public final class RandomRunsTest {
     private final Random by;
     private final DrawnBonds house = new DrawnBonds();
     private final Model model = new Model();
+    private int calls = 0;
 
     private RandomRunsTest(long seed) {
         by = new Random(seed);
     }
 
     public static void main(String[] args) {
-        for (int seed = 1; seed <= 4000; seed++) {
+        for (int seed = 1; seed <= 5000; seed++) {
             new RandomRunsTest(seed).go(seed);
         }
         Check.end();
     }
 
     private void go(int seed) {
-        int calls = tellText(seed, 0);
+        tellText(seed);
         boolean years = by.nextInt(3) > 0;
-        while (calls < 500) {
+        while (calls < 460) {
             if (by.nextInt(150) == 0) {
-                calls += tellText(seed, calls);
+                tellText(seed);
             } else {
                 int what = years && by.nextInt(12) == 0 ? 5 : by.nextInt(35);
-                one("run " + seed + " call " + calls + " ", what);
                 calls++;
+                one("run " + seed + " call " + calls + " ", what);
             }
         }
     }
 
-    private int tellText(int seed, int calls) {
+    private void tellText(int seed) {
         String t = text();
         if (by.nextInt(4) == 0) {
             t = spoil(t);
@@ -44,18 +45,17 @@ public final class RandomRunsTest {
         if (t.length() > 700) {
             t = t.substring(0, 700);
         }
-        int fed = 0;
         for (int at = 0; at < t.length(); at += 20) {
             int[] f = new int[5];
             for (int k = 0; k < 20; k++) {
                 f[k / 4] = f[k / 4] << 8 | (at + k < t.length() ? t.charAt(at + k) & 255 : 32);
             }
             Check.due("feed", house.feed(f[0], f[1], f[2], f[3], f[4]), model.feed(f));
-            fed++;
+            calls++;
         }
+        calls++;
         int n = by.nextInt(10) == 0 ? by.nextInt(720) - 5 : t.length();
         Check.due("run " + seed + " call " + calls + " text of [" + t + "] " + n, house.text(n), model.text(n));
-        return fed + 1;
     }
 
     private String text() {
@@ -126,7 +126,7 @@ public final class RandomRunsTest {
     }
 
     private int coming() {
-        return by.nextInt(3) == 0 ? small(21) : house.count(2) + small(4);
+        return by.nextInt(3) == 0 ? small(21) : model.count(2) + small(4);
     }
 
     private int sum() {
@@ -135,6 +135,7 @@ public final class RandomRunsTest {
 
     private void fraction(String call, long got, long want) {
         Check.due(call, got, want);
+        calls++;
         Check.due("below() behind " + call, house.below(), model.below());
     }
 
