@@ -3,6 +3,7 @@ import java.lang.reflect.Field;
 import java.lang.reflect.Method;
 import java.lang.reflect.Modifier;
 import java.util.Arrays;
+import java.util.NoSuchElementException;
 import java.util.Set;
 import java.util.TreeSet;
 
@@ -30,6 +31,8 @@ public final class FaceTest {
                 String args1 = Arrays.toString(m.getParameterTypes()).replace(" ", "");
                 found.add(m.getReturnType() + " " + m.getName() + "(" + args1.substring(1, args1.length() - 1) + ")");
                 names.add(m.getName());
+                Class<?>[] declared = m.getName().equals("loan") ? new Class<?>[] {NoSuchElementException.class} : new Class<?>[0];
+                Check.due(m + " declares " + declared.length, Arrays.equals(m.getExceptionTypes(), declared), true);
             }
         }
         Set<String> want = new TreeSet<>(Arrays.asList(FACE));
@@ -63,6 +66,8 @@ public final class FaceTest {
             Check.due(m + " of a name of its own", names.contains(m.getName()), false);
             Check.due(m + " has at most seven parameters", m.getParameterCount() <= 7, true);
         }
+        long fields = Arrays.stream(inside.getDeclaredFields()).filter(f -> !Modifier.isStatic(f.getModifiers())).count();
+        Check.due(inside + " has some twenty fields at most", fields <= 20, true);
         for (Field f : inside.getDeclaredFields()) {
             Check.due(f + " is no static state", !Modifier.isStatic(f.getModifiers()) || Modifier.isFinal(f.getModifiers()), true);
         }
